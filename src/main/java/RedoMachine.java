@@ -392,12 +392,18 @@ public final class RedoMachine {
      * REDO point knows how many FRAMES lie below it.
      */
     private static final class Stack {
+        private static final int PLACE_BITS = 16;
+        private static final int PLACE_MASK = 0xFFFF;
+
         private final ArrayList<Frame> frames = new ArrayList<>();
         int frameCount;
         private final ArrayList<Redo> redos = new ArrayList<>();
         int redoCount;
         private final LongRow values = new LongRow();
-        /** What changed SLOTS held, as pairs of a place and its VALUE, for going back. */
+        /**
+         * For going back: what changed SLOTS held, and in the low bits their places, as one long
+         * for both takes half the room (a VALUE has 42 bits at most, a place 15).
+         */
         private final LongRow trail = new LongRow();
         private int limit;
         int greatest;
@@ -476,8 +482,7 @@ public final class RedoMachine {
             int place = frame.base + slot;
             Redo latest = redoAt(redoCount - 1);
             if (latest != null && place < latest.valuesBelow) {
-                trail.push(place);
-                trail.push(values.at(place));
+                trail.push(values.at(place) << PLACE_BITS | place);
             }
             values.set(place, value);
         }
@@ -526,9 +531,9 @@ public final class RedoMachine {
         }
 
         void goBackTo(Redo redo) {
-            for (int left = trail.size(); left > redo.trailBelow; left -= 2) {
-                long before = trail.pop();
-                values.set((int) trail.pop(), before);
+            for (int left = trail.size(); left > redo.trailBelow; left--) {
+                long change = trail.pop();
+                values.set((int) (change & PLACE_MASK), change >> PLACE_BITS);
             }
         }
     }
