@@ -136,6 +136,18 @@ public final class InstructionsTest {
     check.due("SAME other tags with fields", sameOf("c245", "c345"), 2);
     check.due("SAME more fields", sameOf("c345", "c335"), 2);
     check.due("SAME with none", sameOf("c300", "c310"), 2);
+
+    // what one SAME did not look at is nothing to the next
+    Bench b = new Bench();
+    int p = b.again(4, 4, 0);
+    b.redo(p, 4);
+    b.make(p, 0, 1, 0, 1);
+    b.make(p, 2, 1, 2, 3);
+    b.same(p, 0, 2);
+    b.same(p, 1, 1);
+    b.exit(p);
+    b.begin(p, 1, 2, 3, 4);
+    check.due("SAME behind one that failed", b.solutions(), "1 #2");
   }
 
   /** Makes slot 0 a value with so many pairs to look at, its last number that of slot 1. */
@@ -484,6 +496,22 @@ public final class InstructionsTest {
     c.begin(q);
     c.machine.run(6);
     check.due("the frame below the one that is left stays", c.told(), "0 6 10 13 0 0 0 1 2");
+
+    // the one that is left is below the exited frame, which goes
+    Bench d = new Bench();
+    int k = d.again(1, 0);
+    d.redo(k, 9);
+    d.exit(k);
+    int r = d.again(2, 0);
+    d.redo(r, 9);
+    d.mark(r, 0);
+    d.call(r, k);
+    d.cut(r, 0);
+    d.begin(r);
+    d.machine.run(5);
+    check.due("an exited frame above a redo point", d.told(), "0 5 13 13 0 0 0 2 2");
+    d.machine.run(1);
+    check.due("it goes, the redo point stays", d.told(), "0 6 7 13 0 0 0 1 1");
   }
 
   /** A callee cuts: the frame of an exited one below it stays, until a later cut of the caller. */

@@ -430,7 +430,7 @@ public final class PromisesTest {
 
   private static void tellIsCut() {
     Bench b = new Bench();
-    int p = b.again(2, 1, 1);
+    int p = b.again(2, 1, 1, 0);
     b.move(p, 1, 0);
     for (int i = 0; i < 400; i++) b.make(p, 1, i % 2 == 0 ? 7 : 12, 1);
     b.exit(p);
@@ -439,6 +439,7 @@ public final class PromisesTest {
     StringBuilder deep = new StringBuilder();
     for (int i = 399; i >= 0; i--) deep.append(i % 2 == 0 ? "c7(" : "c12(");
     check.due("8: its first 1000", b.text(0), deep.substring(0, 1000));
+    check.due("8: a short one behind it", b.text(1), "-45");
 
     for (int n = 1; n < 5; n++) check.due("8: cut, " + n, cutText(n), wholeText(n));
   }

@@ -15,6 +15,7 @@ public final class RandomRunsTest {
   private final int[] insOf = new int[60];
   private final int[] outsOf = new int[60];
   private int procedures = 0;
+  private final boolean smooth;
 
   private static final long[] reached = new long[8];
 
@@ -22,6 +23,7 @@ public final class RandomRunsTest {
     this.seed = run * 7919L + 17;
     this.name = "run " + run;
     this.check = check;
+    this.smooth = run % 2 == 0;
   }
 
   private int below(int bound) {
@@ -75,17 +77,23 @@ public final class RandomRunsTest {
 
   private static final int[] KINDS = {0, 0, 0, 1, 2, 2, 3, 3, 4, 5, 5, 6, 7, 8, 9, 9, 9, 9, 10, 10, 10,
     10, 11, 11, 12, 13, 14, 14, 14, 15};
+  /** Those that mostly go on to the next, so that much comes onto the stack. */
+  private static final int[] SMOOTH_KINDS = {0, 0, 1, 2, 9, 9, 9, 10, 10, 10, 11, 11, 12, 12, 13, 14};
 
   private void newInstruction() {
-    int p = mostly(procedures);
+    int[] kinds = smooth ? SMOOTH_KINDS : KINDS;
+    newInstruction(mostly(procedures), below(100) == 0 ? wild() : kinds[below(kinds.length)]);
+  }
+
+  private void newInstruction(int p, int kind) {
     int slots = p >= 0 && p < procedures ? slotsOf[p] : 3;
-    int kind = below(100) == 0 ? wild() : KINDS[below(KINDS.length)];
     int[] arg = {mostly(slots), mostly(slots), mostly(slots), mostly(5)};
     if (kind == 0 && below(10) == 0) arg[1] = wild();
     if (kind == 2 || kind == 3) {
       arg[1] = mostly(2);
       putSlots(below(20) == 0 ? below(6) : below(3), slots);
     }
+    if (smooth && kind >= 11 && kind <= 13 && below(4) > 0) arg[0] = slots - 1;
     if (kind == 6) arg[2] = mostly(6);
     if (kind == 7 || kind == 9) arg[0] = mostly(8);
     if (kind == 8) {
@@ -163,6 +171,7 @@ public final class RandomRunsTest {
     for (int i = 0; i < firstProcedures; i++) newProcedure();
     int instructions = procedures * (2 + below(12));
     for (int i = 0; i < instructions; i++) newInstruction();
+    for (int i = 0; smooth && i < procedures; i++) newInstruction(i, 14);
     while (calls < CALLS && check.wrong() == 0) {
       int choice = below(60);
       boolean over = tested.told(0) != 0 && tested.told(0) != 1;
