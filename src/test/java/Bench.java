@@ -1,27 +1,80 @@
 import java.util.NoSuchElementException;
 
-/** A machine under test, with shorter ways to write programs for it. */
+/**
+ * A machine under test, with shorter ways to write programs for it. It refuses a test that makes
+ * more calls than the document promises something about.
+ */
 final class Bench {
+  static final int MOST_CALLS = 512;
+  /** What tell answers here where it throws NoSuchElementException. */
   static final int THROWS = -7;
-  final RedoMachine machine = new RedoMachine();
+
+  private final RedoMachine machine = new RedoMachine();
+  private int calls = 0;
+
+  private RedoMachine called() {
+    if (calls == MOST_CALLS) throw new IllegalStateException("the test makes too many calls");
+    calls++;
+    return machine;
+  }
+
+  boolean put(int n) {
+    return called().put(n);
+  }
+
+  int procedure(boolean again, int slots, int ins) {
+    return called().procedure(again, slots, ins);
+  }
+
+  int add(int p, int kind, int a, int b, int c, int d) {
+    return called().add(p, kind, a, b, c, d);
+  }
+
+  boolean beginWithin(int p, int stack, int heap) {
+    return called().begin(p, stack, heap);
+  }
+
+  int run(int n) {
+    return called().run(n);
+  }
+
+  int told(int what) {
+    return called().told(what);
+  }
+
+  int tell(int k) {
+    try {
+      return called().tell(k);
+    } catch (NoSuchElementException e) {
+      return THROWS;
+    }
+  }
+
+  int letter(int i) {
+    return called().letter(i);
+  }
+
+  long slot(int k) {
+    return called().slot(k);
+  }
 
   Bench row(int... numbers) {
-    for (int n : numbers) machine.put(n);
+    for (int n : numbers) put(n);
     return this;
   }
 
+  /** How many more numbers the row takes; it is full then. */
+  int roomInRow() {
+    for (int i = 0; i < 20; i++) if (!put(0)) return i;
+    return 20;
+  }
+
   int again(int slots, int ins, int... outs) {
-    row(outs);
-    return machine.procedure(true, slots, ins);
+    return row(outs).procedure(true, slots, ins);
   }
 
   int once(int slots, int ins, int... outs) {
-    row(outs);
-    return machine.procedure(false, slots, ins);
-  }
-
-  private int add(int p, int kind, int a, int b, int c, int d) {
-    return machine.add(p, kind, a, b, c, d);
+    return row(outs).procedure(false, slots, ins);
   }
 
   int number(int p, int a, int n) {
@@ -89,7 +142,7 @@ final class Bench {
   }
 
   boolean begin(int p, int... arguments) {
-    return row(arguments).machine.begin(p, 20000, 20000);
+    return row(arguments).beginWithin(p, 20000, 20000);
   }
 
   /**
@@ -113,43 +166,71 @@ final class Bench {
     return go(p, 1) + 1;
   }
 
-  int tell(int k) {
-    try {
-      return machine.tell(k);
-    } catch (NoSuchElementException e) {
-      return THROWS;
-    }
+  /**
+   * A machine in that STATE, whose procedure 0 takes one argument and has 2 slots and one OUT. But
+   * for NONE and 2, a redo point lies there from which it would go on.
+   */
+  static Bench inState(int state) {
+    Bench b = new Bench();
+    int p = b.again(2, 1, 0);
+    if (state != 2) b.redo(p, 1);
+    if (state == 0) b.go(p, 2);
+    if (state == 1) b.exit(p);
+    if (state == 3) b.go(p, 1);
+    if (state == 4) b.call(p, p, 0, 1);
+    if (state == 5) b.make(p, 1, 0, 0);
+    if (state == 5) b.go(p, 1);
+    if (state == 6) b.make(p, 1, 0);
+    if (state == 6) b.cut(p, 1);
+    if (state != RedoMachine.NONE) b.row(7).beginWithin(p, 50, 10);
+    b.run(state == 0 ? 1 : Integer.MAX_VALUE);
+    if (b.told(0) != state) throw new IllegalStateException("not in STATE " + state);
+    return b;
   }
 
-  /** OUT as it is now. */
+  /** OUT from one character to ahead of another. */
+  String letters(int from, int to) {
+    StringBuilder text = new StringBuilder();
+    for (int i = from; i < to; i++) {
+      int letter = letter(i);
+      text.append(letter == RedoMachine.NONE ? "#" : String.valueOf((char) letter));
+    }
+    return text.toString();
+  }
+
+  /** OUT as it is now, as far as it goes. */
   String out() {
     StringBuilder text = new StringBuilder();
-    for (int i = 0; machine.letter(i) != RedoMachine.NONE; i++) text.append((char) machine.letter(i));
-    return text.toString();
+    for (int i = 0; ; i++) {
+      int letter = letter(i);
+      if (letter == RedoMachine.NONE) return text.toString();
+      text.append((char) letter);
+    }
   }
 
   /** The k-th OUT of the solution, with its length checked against OUT itself. */
   String text(int k) {
     int length = tell(k);
     if (length == THROWS) return "throws";
-    return length == out().length() ? out() : "length " + length + " but OUT is " + out();
+    String text = out();
+    return length == text.length() ? text : "length " + length + " but OUT is " + text;
   }
 
   /** All solutions of what has been begun, the texts of OUT 0, with the last state behind. */
   String solutions() {
     StringBuilder all = new StringBuilder();
-    int state = machine.run(100000);
-    for (int i = 0; state == 1 && i < 100; i++) {
+    int state = run(100000);
+    while (state == 1) {
       all.append(text(0)).append(' ');
-      state = machine.run(100000);
+      state = run(100000);
     }
     return all.append('#').append(state).toString();
   }
 
   /** told(0) to told(8), with a blank between. */
   String told() {
-    StringBuilder all = new StringBuilder().append(machine.told(0));
-    for (int what = 1; what <= 8; what++) all.append(' ').append(machine.told(what));
+    StringBuilder all = new StringBuilder().append(told(0));
+    for (int what = 1; what <= 8; what++) all.append(' ').append(told(what));
     return all.toString();
   }
 }

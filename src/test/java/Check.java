@@ -28,6 +28,10 @@ final class Check {
     }
   }
 
+  int looked() {
+    return looked;
+  }
+
   int wrong() {
     return wrong;
   }

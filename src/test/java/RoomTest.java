@@ -2,7 +2,7 @@ import java.lang.management.ManagementFactory;
 
 /** The dearest programs, begun as often as 512 calls allow, make few objects. */
 public final class RoomTest {
-  // Some 600,000 objects of at least 16 bytes and 7.3 million elements may be made in a run.
+  // Some 600,000 objects, of at least 16 bytes each, may be made in a run, and 7.3 million elements.
   private static final long MOST_BYTES = 8_000_000;
   private static final Check check = new Check("room");
 
@@ -20,12 +20,15 @@ public final class RoomTest {
     long before = bytesMade();
     Bench b = new Bench();
     int p = program.write(b);
-    for (int i = 0; i < 200; i++) {
+    for (int i = 0; i < 150; i++) {
       b.begin(p);
-      b.machine.run(Integer.MAX_VALUE);
+      b.run(Integer.MAX_VALUE);
     }
-    long made = bytesMade() - before;
-    System.out.println(name + ": " + made + " bytes, " + b.told());
+    dueBytes(name, bytesMade() - before);
+  }
+
+  private static void dueBytes(String name, long made) {
+    System.out.println(name + ": " + made + " bytes");
     check.due(name + " within " + MOST_BYTES + " bytes", made <= MOST_BYTES, true);
   }
 
@@ -63,20 +66,22 @@ public final class RoomTest {
   /** A list whose elements are on the left, so that many pairs wait. */
   private static int pairs(Bench b) {
     int p = b.again(2, 0);
-    for (int i = 0; i < 100; i++) b.make(p, 0, 1, 0, 1, 1, 1);
+    for (int i = 0; i < 30; i++) b.make(p, 0, 1, 0, 1, 1, 1);
     b.same(p, 0, 0);
     b.exit(p);
     return p;
   }
 
-  private static int texts(Bench b) {
+  private static void texts() {
+    long before = bytesMade();
+    Bench b = new Bench();
     int p = b.again(1, 0, 0);
     for (int i = 0; i < 12; i++) b.make(p, 0, 31, 0, 0);
     b.exit(p);
     b.begin(p);
-    b.machine.run(100);
+    b.run(100);
     for (int i = 0; i < 400; i++) b.tell(0);
-    return p;
+    dueBytes("texts", bytesMade() - before);
   }
 
   public static void main(String[] args) {
@@ -86,7 +91,7 @@ public final class RoomTest {
     look("redo points", RoomTest::redos);
     look("cells", RoomTest::cells);
     look("pairs", RoomTest::pairs);
-    look("texts", RoomTest::texts);
+    texts();
     check.end();
   }
 }
