@@ -41,7 +41,7 @@ public final class Promise01Test {
     check.due("told with a procedure there", b.told(), "-1 0 0 0 0 0 0 0 0");
   }
 
-  @Sentence(of = "Promise 1", says = "the row and OUT are empty: the row")
+  @Sentence(of = "Promise 1", says = "the row and OUT are empty", where = "the row")
   static void rowIsEmpty(Check check) {
     check.due("numbers that the row takes", besideAnother().roomInRow(), 10);
 
@@ -53,7 +53,7 @@ public final class Promise01Test {
     check.due("OUT 0 of a procedure whose row was the new one", b.tell(0), Bench.THROWS);
   }
 
-  @Sentence(of = "Promise 1", says = "the row and OUT are empty: OUT")
+  @Sentence(of = "Promise 1", says = "the row and OUT are empty", where = "OUT")
   static void outIsEmpty(Check check) {
     Bench b = besideAnother();
     for (int i : new int[] {0, 1, -1, 999, 1000}) check.due("letter " + i, b.letter(i), NONE);

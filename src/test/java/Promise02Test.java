@@ -61,7 +61,9 @@ public final class Promise02Test {
     check.due("room behind begin", d.roomInRow(), 10);
   }
 
-  @Sentence(of = "Promise 2", says = "also when they are refused: procedure")
+  @Sentence(of = "Promise 2",
+      says = "Calls that take the row empty it, also when they are refused",
+      where = "procedure")
   static void takenByRefusedProcedure(Check check) {
     int[][] wrong = {{0, 0}, {41, 0}, {MIN, 0}, {5, -1}, {5, 6}, {5, MAX}, {2, 0}, {40, 9}};
     for (int[] w : wrong) {
@@ -79,7 +81,9 @@ public final class Promise02Test {
     check.due("room behind a 61st", full.roomInRow(), 10);
   }
 
-  @Sentence(of = "Promise 2", says = "also when they are refused: add")
+  @Sentence(of = "Promise 2",
+      says = "Calls that take the row empty it, also when they are refused",
+      where = "add")
   static void takenByRefusedAdd(Check check) {
     int[][] wrong = {
       {-1, 14, 0, 0, 0, 0}, {1, 14, 0, 0, 0, 0}, {0, -1, 0, 0, 0, 0}, {0, 16, 0, 0, 0, 0},
@@ -105,7 +109,9 @@ public final class Promise02Test {
     }
   }
 
-  @Sentence(of = "Promise 2", says = "also when they are refused: begin")
+  @Sentence(of = "Promise 2",
+      says = "Calls that take the row empty it, also when they are refused",
+      where = "begin")
   static void takenByRefusedBegin(Check check) {
     int[][] wrong = {
       {-1, 100, 100}, {1, 100, 100}, {0, -1, 100}, {0, 20001, 100}, {0, 100, -1}, {0, 100, 20001},
@@ -122,7 +128,7 @@ public final class Promise02Test {
     check.due("room behind one too many", more.roomInRow(), 10);
   }
 
-  @Sentence(of = "Promise 2", says = "Calls that take the row (no others do)")
+  @Sentence(of = "Promise 2", says = "Calls that take the row empty it", where = "no others do")
   static void leftByOthers(Check check) {
     for (int state = NONE; state <= 6; state++) {
       Bench b = Bench.inState(state).row(1, 2, 3);

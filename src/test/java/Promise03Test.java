@@ -53,7 +53,7 @@ public final class Promise03Test {
     check.due("run of the last", b.run(9), 1);
   }
 
-  @Sentence(of = "Promise 3", says = "or a number is not as said (1 .. 40 SLOTS)")
+  @Sentence(of = "Promise 3", says = "or a number is not as said", where = "1 .. 40 SLOTS")
   static void slotsAsSaid(Check check) {
     for (int slots : new int[] {0, -1, 41, 42, 60, MIN, MAX}) {
       Bench b = new Bench();
@@ -70,7 +70,9 @@ public final class Promise03Test {
     }
   }
 
-  @Sentence(of = "Promise 3", says = "or a number is not as said (the first INS of the SLOTS)")
+  @Sentence(of = "Promise 3",
+      says = "or a number is not as said",
+      where = "the first INS of the SLOTS")
   static void insAsSaid(Check check) {
     for (int ins : new int[] {-1, 6, 7, MIN, MAX, MAX - 1}) {
       check.due("ins " + ins + " of 5 slots", new Bench().again(5, ins), NONE);
@@ -85,7 +87,7 @@ public final class Promise03Test {
     }
   }
 
-  @Sentence(of = "Promise 3", says = "or a number is not as said (OUTS at most 8)")
+  @Sentence(of = "Promise 3", says = "or a number is not as said", where = "OUTS, at most 8")
   static void outsAtMostEight(Check check) {
     check.due("9", new Bench().again(40, 0, 0, 1, 2, 3, 4, 5, 6, 7, 8), NONE);
     check.due("9, all the same", new Bench().again(1, 0, 0, 0, 0, 0, 0, 0, 0, 0, 0), NONE);
@@ -95,7 +97,9 @@ public final class Promise03Test {
     check.due("none", new Bench().again(40, 0), 0);
   }
 
-  @Sentence(of = "Promise 3", says = "or a number is not as said (INS and OUTS at most 10 together)")
+  @Sentence(of = "Promise 3",
+      says = "or a number is not as said",
+      where = "INS and OUTS at most 10 together")
   static void insAndOutsAtMostTen(Check check) {
     for (int ins = 0; ins <= 12; ins++) {
       for (int outs = 0; outs <= 8; outs++) {
@@ -138,7 +142,7 @@ public final class Promise03Test {
     check.due("it has no OUTS either", c.tell(0), Bench.THROWS);
   }
 
-  @Sentence(of = "Promise 3", says = "refused (nothing changes)")
+  @Sentence(of = "Promise 3", says = "NONE, refused", where = "nothing changes")
   static void refusedChangesNothing(Check check) {
     Bench b = Bench.inState(1);
     String told = b.told();

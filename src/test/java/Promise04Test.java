@@ -60,7 +60,9 @@ public final class Promise04Test {
   }
 
   /** What is next is a number: an instruction that comes later is found there. */
-  @Sentence(of = "Promise 4", says = "A new INSTRUCTION of a PROCEDURE (also of the one at work)")
+  @Sentence(of = "Promise 4",
+      says = "A new INSTRUCTION of a PROCEDURE",
+      where = "of the one at work, too")
   static void addedWhileAtWork(Check check) {
     Bench b = new Bench();
     int p = b.again(1, 0, 0);
@@ -108,7 +110,7 @@ public final class Promise04Test {
     }
   }
 
-  @Sentence(of = "Promise 4", says = "others are not looked at (n of NUMBER is any)")
+  @Sentence(of = "Promise 4", says = "others are not looked at", where = "n of NUMBER is any")
   static void anyNumber(Check check) {
     tryAll(check, 'n', new int[] {}, new int[] {0, -1, 3, 32, 2000, MIN, MAX});
   }
@@ -123,7 +125,9 @@ public final class Promise04Test {
     check.due("a is 0, which takes none", b.add(0, 10, 0, 1, 1, 1), 1);
   }
 
-  @Sentence(of = "Promise 4", says = "NONE, refused, when .. there is no such PROCEDURE")
+  @Sentence(of = "Promise 4",
+      says = "there is no such PROCEDURE or INSTRUCTION",
+      where = "PROCEDURE")
   static void noSuchProcedure(Check check) {
     for (int kind = 0; kind < 16; kind++) {
       for (int n : new int[] {-1, 2, 59, 60, MIN, MAX}) {
@@ -135,7 +139,9 @@ public final class Promise04Test {
     }
   }
 
-  @Sentence(of = "Promise 4", says = "NONE, refused, when .. there is no such INSTRUCTION")
+  @Sentence(of = "Promise 4",
+      says = "there is no such PROCEDURE or INSTRUCTION",
+      where = "INSTRUCTION")
   static void noSuchInstruction(Check check) {
     Bench b = twoProcedures();
     for (int kind : new int[] {-1, 16, 17, MIN, MAX}) {
@@ -157,12 +163,12 @@ public final class Promise04Test {
     tryAll(check, 't', new int[] {-1, 32, 33, MIN, MAX}, new int[] {0, 1, 30, 31});
   }
 
-  @Sentence(of = "Promise 4", says = "an OPERATION or RELATION none: OPERATION")
+  @Sentence(of = "Promise 4", says = "an OPERATION or RELATION none", where = "OPERATION")
   static void noSuchOperation(Check check) {
     tryAll(check, 'o', new int[] {-1, 5, 6, MIN, MAX}, new int[] {0, 1, 2, 3, 4});
   }
 
-  @Sentence(of = "Promise 4", says = "an OPERATION or RELATION none: RELATION")
+  @Sentence(of = "Promise 4", says = "an OPERATION or RELATION none", where = "RELATION")
   static void noSuchRelation(Check check) {
     tryAll(check, 'r', new int[] {-1, 6, 7, MIN, MAX}, new int[] {0, 1, 2, 3, 4, 5});
   }
@@ -216,7 +222,7 @@ public final class Promise04Test {
     }
   }
 
-  @Sentence(of = "Promise 4", says = "or what is no SLOT (in the row)")
+  @Sentence(of = "Promise 4", says = "or the row .. has .. what is no SLOT")
   static void rowWithNoSlot(Check check) {
     for (int wrong : new int[] {-1, 3, 4, 5, 40, MIN, MAX}) {
       for (int place = 0; place < 4; place++) {
@@ -264,7 +270,7 @@ public final class Promise04Test {
     check.due("room behind it", b.roomInRow(), 10);
   }
 
-  @Sentence(of = "Promise 4", says = "refused (nothing changes)")
+  @Sentence(of = "Promise 4", says = "NONE, refused", where = "nothing changes")
   static void refusedChangesNothing(Check check) {
     Bench b = new Bench();
     int p = b.again(1, 0, 0);

@@ -35,7 +35,8 @@ public final class Promise05Test {
     check.due("its slot", d.slot(0), 0);
   }
 
-  @Sentence(of = "Promise 5", says = "its FRAME alone lies there, nothing is on the HEAP, the STATE is 0")
+  @Sentence(of = "Promise 5",
+      says = "its FRAME alone lies there, nothing is on the HEAP, the STATE is 0")
   static void frameAlone(Check check) {
     for (int state = NONE; state <= 6; state++) {
       Bench b = Bench.inState(state);
@@ -48,7 +49,9 @@ public final class Promise05Test {
   }
 
   /** Whatever was begun, and wherever it stopped, the next one runs as if it were the first. */
-  @Sentence(of = "Promise 5", says = "A PROCEDURE is begun (anew)")
+  @Sentence(of = "Promise 5",
+      says = "A PROCEDURE is begun",
+      where = "anew, wherever the last one stopped")
   static void begunAnew(Check check) {
     Bench b = new Bench();
     int p = b.again(3, 0, 1);
@@ -89,7 +92,7 @@ public final class Promise05Test {
     }
   }
 
-  @Sentence(of = "Promise 5", says = "a limit is not 0 .. 20,000: the STACK's")
+  @Sentence(of = "Promise 5", says = "a limit is not 0 .. 20,000", where = "the STACK's")
   static void stackLimit(Check check) {
     for (int n : new int[] {-1, 20001, 20002, MIN, MAX}) {
       check.due("stack " + n, oneProcedure().row(1, 2).beginWithin(0, n, 0), false);
@@ -98,7 +101,7 @@ public final class Promise05Test {
     check.due("stack 19,999", oneProcedure().row(1, 2).beginWithin(0, 19999, 0), true);
   }
 
-  @Sentence(of = "Promise 5", says = "a limit is not 0 .. 20,000: the HEAP's")
+  @Sentence(of = "Promise 5", says = "a limit is not 0 .. 20,000", where = "the HEAP's")
   static void heapLimit(Check check) {
     for (int n : new int[] {-1, 20001, 20002, MIN, MAX}) {
       check.due("heap " + n, oneProcedure().row(1, 2).beginWithin(0, 100, n), false);
@@ -157,7 +160,7 @@ public final class Promise05Test {
     check.due("room behind it", b.roomInRow(), 10);
   }
 
-  @Sentence(of = "Promise 5", says = "False, refused (nothing changes)")
+  @Sentence(of = "Promise 5", says = "False, refused", where = "nothing changes")
   static void refusedChangesNothing(Check check) {
     int[][] wrong = {
       {-1, 100, 100}, {1, 100, 100}, {0, -1, 100}, {0, 20001, 100}, {0, 100, -1}, {0, 100, 20001},

@@ -166,7 +166,8 @@ public final class Promise06Test {
   }
 
   @Sentence(of = "Promise 6 and Terms",
-      says = "3 OUT OF FUEL: what is no STEP needs none (EXIT in the last one, FAILS behind it)")
+      says = "3 OUT OF FUEL (another STEP would be done when 20,000 were since begin())",
+      where = "a SOLUTION in the last STEP, and it FAILS behind it")
   static void solutionAtTheLastStep(Check check) {
     Bench b = exitAtLastStep(false);
     check.due("a solution", b.run(MAX), 1);

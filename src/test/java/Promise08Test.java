@@ -53,7 +53,8 @@ public final class Promise08Test {
     }
   }
 
-  @Sentence(of = "Promise 8", says = "and its FIELDS, if there are some, in ( ) with a comma between")
+  @Sentence(of = "Promise 8",
+      says = "and its FIELDS, if there are some, in ( ) with a comma between")
   static void cellWithFields(Check check) {
     Term n = Term.number(-7);
     Term none = Term.cell(3);
@@ -95,7 +96,9 @@ public final class Promise08Test {
     }
   }
 
-  @Sentence(of = "Promise 8", says = "what would come behind is left out (all ahead of it is there)")
+  @Sentence(of = "Promise 8",
+      says = "what would come behind is left out",
+      where = "all ahead of it is there")
   static void allAheadIsThere(Check check) {
     Term term = Term.cell(12, Term.ofLength(300), Term.ofLength(501), Term.ofLength(400));
     String whole = term.text();
@@ -106,7 +109,9 @@ public final class Promise08Test {
     }
   }
 
-  @Sentence(of = "Promise 8", says = "what would come behind is left out (of cells nested deep)")
+  @Sentence(of = "Promise 8",
+      says = "what would come behind is left out",
+      where = "of CELLS nested deep")
   static void deepCells(Check check) {
     for (int deep : new int[] {199, 200, 249, 250, 251, 333, 334, 2000}) {
       Bench b = new Bench();
@@ -137,7 +142,7 @@ public final class Promise08Test {
     check.due("OUT", b.out(), "-5");
   }
 
-  @Sentence(of = "Promise 8", says = "NoSuchElementException: the STATE isn't 1 (OUT stays)")
+  @Sentence(of = "Promise 8", says = "NoSuchElementException: the STATE isn't 1 .. (OUT stays)")
   static void throwsInOtherStates(Check check) {
     for (int state : new int[] {NONE, 0, 2, 3, 4, 5, 6}) {
       Bench b = Bench.inState(state);
@@ -185,7 +190,9 @@ public final class Promise08Test {
     }
   }
 
-  @Sentence(of = "Promise 8", says = "OUT becomes .. (in no other call)")
+  @Sentence(of = "Promise 8",
+      says = "OUT becomes the k-th OUT of a SOLUTION",
+      where = "in no other call")
   static void outStaysInOtherCalls(Check check) {
     Bench b = new Bench();
     int p = b.again(1, 1, 0);
@@ -211,7 +218,9 @@ public final class Promise08Test {
   }
 
   /** What a later redo point's cells were is not told any more. */
-  @Sentence(of = "Promise 8", says = "OUT becomes the k-th OUT of a SOLUTION (of each as it is then)")
+  @Sentence(of = "Promise 8",
+      says = "OUT becomes the k-th OUT of a SOLUTION",
+      where = "of each as it is then")
   static void eachSolutionAsItIsThen(Check check) {
     Term first = Term.cell(7, Term.number(1), Term.cell(8, Term.number(2)));
     Term second = Term.cell(9, Term.cell(10, Term.number(3), Term.number(4)));

@@ -28,7 +28,7 @@ public final class Promise09Test {
     }
   }
 
-  @Sentence(of = "Promise 9", says = "NONE when there is none: OUT is empty")
+  @Sentence(of = "Promise 9", says = "NONE when there is none", where = "OUT is empty")
   static void noneInEmptyOut(Check check) {
     for (int state = NONE; state <= 6; state++) {
       Bench b = Bench.inState(state);
@@ -37,7 +37,7 @@ public final class Promise09Test {
     }
   }
 
-  @Sentence(of = "Promise 9", says = "NONE when there is none: ahead of OUT or behind it")
+  @Sentence(of = "Promise 9", says = "NONE when there is none", where = "ahead of OUT or behind it")
   static void noneOutside(Check check) {
     Bench b = solutionOf(Term.number(-7));
     check.due("tell", b.tell(0), 2);
@@ -47,7 +47,7 @@ public final class Promise09Test {
     for (int i : NEVER) check.due("letter " + i, b.letter(i), NONE);
   }
 
-  @Sentence(of = "Promise 9", says = "NONE when there is none: behind the 1000th")
+  @Sentence(of = "Promise 9", says = "NONE when there is none", where = "behind the 1000th")
   static void noneBehindThousand(Check check) {
     Bench b = solutionOf(Term.ofLength(1500));
     check.due("tell", b.tell(0), 1000);
@@ -55,7 +55,7 @@ public final class Promise09Test {
     for (int i : NEVER) check.due("letter " + i, b.letter(i), NONE);
   }
 
-  @Sentence(of = "Promise 9", says = "NONE when there is none: behind a shorter OUT")
+  @Sentence(of = "Promise 9", says = "NONE when there is none", where = "behind a shorter OUT")
   static void noneOfALongerOutBefore(Check check) {
     Bench b = solutionOf(Term.ofLength(50));
     check.due("tell the long one", b.tell(0), 50);

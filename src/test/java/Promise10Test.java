@@ -43,7 +43,7 @@ public final class Promise10Test {
     check.due("its OUT again", b.slot(1), 60);
   }
 
-  @Sentence(of = "Promise 10", says = "(in STATES 0, 1)")
+  @Sentence(of = "Promise 10", says = "in STATES 0, 1")
   static void inStatesZeroAndOne(Check check) {
     for (int state : new int[] {0, 1}) {
       check.due("slot 0 in STATE " + state, Bench.inState(state).slot(0), 7);

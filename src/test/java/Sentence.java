@@ -10,6 +10,9 @@ import java.lang.annotation.Target;
   /** The section: a promise, or the terms that a promise is read with. */
   String of();
 
-  /** The document's words. */
+  /** The document's words, .. where some are left out. */
   String says();
+
+  /** The case or the part of the sentence, where it has tests for several. */
+  String where() default "";
 }

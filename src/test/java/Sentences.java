@@ -31,7 +31,8 @@ final class Sentences {
   private static String nameOf(Method method) {
     Sentence sentence = method.getAnnotation(Sentence.class);
     if (sentence == null) throw new IllegalStateException(method + " is for no sentence");
-    return method.getName() + " (" + sentence.of() + ": \"" + sentence.says() + "\")";
+    String where = sentence.where().isEmpty() ? "" : ", " + sentence.where();
+    return method.getName() + " (" + sentence.of() + ": \"" + sentence.says() + "\"" + where + ")";
   }
 
   private static boolean runsToItsEnd(Method method, Check check) {

@@ -43,9 +43,23 @@ public final class TermsTest {
     b.run(6);
     check.due("frames", b.told(8), 2);
     for (int k = 0; k < 3; k++) check.due("slot " + k, b.slot(k), 0);
+
+    // what the slots for the OUTS have is nothing to the called frame
+    Bench c = new Bench();
+    int twoOuts = c.again(5, 1, 3, 4);
+    c.exit(twoOuts);
+    int caller = c.again(3, 3, 1, 2);
+    c.call(caller, twoOuts, 0, 1, 2);
+    c.exit(caller);
+    c.begin(caller, 7, 8, 9);
+    c.run(1);
+    check.due("the argument", c.slot(0), 7);
+    for (int k = 1; k < 5; k++) check.due("slot " + k + " behind it", c.slot(k), 0);
+    check.due("the OUTS are 0 at its EXIT", c.solutions(), "0 #2");
   }
 
-  @Sentence(of = "Terms", says = "A CELL with FIELDS takes 1 more than these of the HEAP, others nothing")
+  @Sentence(of = "Terms",
+      says = "A CELL with FIELDS takes 1 more than these of the HEAP, others nothing")
   static void heapOfCells(Check check) {
     int[] due = {0, 2, 3, 4, 5};
     for (int fields = 0; fields <= 4; fields++) {
@@ -62,7 +76,7 @@ public final class TermsTest {
     }
   }
 
-  @Sentence(of = "Terms", says = "(behind the last one: FAIL)")
+  @Sentence(of = "Terms", says = "behind the last one: FAIL")
   static void behindTheLast(Check check) {
     Bench b = new Bench();
     int p = b.again(1, 0, 0);
@@ -133,6 +147,7 @@ public final class TermsTest {
   private static String taken(int tag, int... row) {
     Bench b = new Bench();
     int p = b.again(4, 4, 0, 1, 2, 3);
+    b.make(p, 3, 7, 3, 3);
     b.make(p, 3, 6, 0, 1, 2);
     b.take(p, 3, tag, row);
     b.exit(p);
@@ -157,7 +172,8 @@ public final class TermsTest {
     check.due("of a cell without fields", b.solutions(), "3 #2");
   }
 
-  @Sentence(of = "Terms", says = "3 TAKE: if a has a CELL with that TAG and as many FIELDS .. else FAIL")
+  @Sentence(of = "Terms",
+      says = "3 TAKE .. if a has a CELL with that TAG and as many FIELDS .. else FAIL")
   static void takeFails(Check check) {
     check.due("another tag", taken(5, 1, 2, 0), "#2");
     check.due("fewer", taken(6, 1, 2), "#2");
@@ -196,8 +212,9 @@ public final class TermsTest {
   private static final Term FOUR = Term.number(4);
   private static final Term BARE = Term.cell(3);
 
-  @Sentence(of = "Terms", says = "4 SAME: at the first that differ, in being a NUMBER or a CELL, in"
-      + " NUMBER, TAG or how many FIELDS, FAIL")
+  @Sentence(of = "Terms",
+      says = "4 SAME .. at the first that differ, in being a NUMBER or a CELL, in NUMBER, TAG "
+          + "or how many FIELDS, FAIL")
   static void same(Check check) {
     check.due("numbers", sameOf(THREE, Term.number(3)), 1);
     check.due("other numbers", sameOf(THREE, FOUR), 2);
@@ -226,7 +243,7 @@ public final class TermsTest {
     }
   }
 
-  @Sentence(of = "Terms", says = "4 SAME: when a 5001st one would be looked at: WRONG")
+  @Sentence(of = "Terms", says = "4 SAME .. when a 5001st one would be looked at: WRONG")
   static void sameCountsPairs(Check check) {
     for (int pairs : new int[] {1, 2, 3, 4998, 4999, 5000}) {
       Term term = Term.ofPairs(pairs);
@@ -240,7 +257,9 @@ public final class TermsTest {
     }
   }
 
-  @Sentence(of = "Terms", says = "4 SAME: each ahead of its FIELDS, these from the left")
+  @Sentence(of = "Terms",
+      says = "4 SAME .. PAIRS of VALUES are looked at, each ahead of its FIELDS, these from "
+          + "the left")
   static void sameOrder(Check check) {
     Term many = Term.ofPairs(5000);
     Term most = Term.ofPairs(4998);
@@ -256,7 +275,9 @@ public final class TermsTest {
         sameOf(Term.cell(1, less, THREE, THREE), Term.cell(1, less, THREE, FOUR)), 2);
   }
 
-  @Sentence(of = "Terms", says = "4 SAME (what one left is nothing to the next; deep cells)")
+  @Sentence(of = "Terms",
+      says = "4 SAME .. PAIRS of VALUES are looked at",
+      where = "behind a SAME that failed, and of CELLS nested deep")
   static void sameAgain(Check check) {
     Bench b = new Bench();
     int p = b.again(4, 4, 0);
@@ -288,7 +309,8 @@ public final class TermsTest {
     return b.solutions();
   }
 
-  @Sentence(of = "Terms", says = "5 SUM a, b, c, an OPERATION 0 + 1 - 2 * 3 / 4 rest: a becomes it")
+  @Sentence(of = "Terms",
+      says = "5 SUM a, b, c, an OPERATION 0 + 1 - 2 * 3 / 4 rest .. a becomes it")
   static void sum(Check check) {
     check.due("+", summed(4, -9, 0), "-5 #2");
     check.due("-", summed(4, -9, 1), "13 #2");
@@ -297,6 +319,14 @@ public final class TermsTest {
     check.due("rest", summed(17, 5, 4), "2 #2");
     check.due("0 + 0", summed(0, 0, 0), "0 #2");
     check.due("0 / 5", summed(0, 5, 3), "0 #2");
+    for (int n : new int[] {1, -1, 40, MAX, MIN + 1}) {
+      check.due(n + " / 1", summed(n, 1, 3), n + " #2");
+      check.due(n + " / -1", summed(n, -1, 3), -n + " #2");
+      check.due(n + " / itself", summed(n, n, 3), "1 #2");
+      check.due(n + " rest 1", summed(n, 1, 4), "0 #2");
+      check.due(n + " rest -1", summed(n, -1, 4), "0 #2");
+      check.due(n + " * 1", summed(n, 1, 2), n + " #2");
+    }
     Bench b = new Bench();
     int p = b.again(1, 1, 0);
     b.sum(p, 0, 0, 0, 2);
@@ -305,7 +335,7 @@ public final class TermsTest {
     check.due("all three are one slot", b.solutions(), "36 #2");
   }
 
-  @Sentence(of = "Terms", says = "5 SUM (as ints that wrap)")
+  @Sentence(of = "Terms", says = "5 SUM .. as ints that wrap")
   static void sumWraps(Check check) {
     check.due("MAX + 1", summed(MAX, 1, 0), "-2147483648 #2");
     check.due("MIN + -1", summed(MIN, -1, 0), "2147483647 #2");
@@ -319,7 +349,7 @@ public final class TermsTest {
     check.due("MIN rest -1", summed(MIN, -1, 4), "0 #2");
   }
 
-  @Sentence(of = "Terms", says = "5 SUM (towards 0, with the sign of b)")
+  @Sentence(of = "Terms", says = "5 SUM .. towards 0, with the sign of b")
   static void sumSigns(Check check) {
     int[][] pairs = {{7, 2}, {-7, 2}, {7, -2}, {-7, -2}, {1, 2}, {-1, 2}, {MIN, 3}, {MAX, MIN}};
     String[] quotients = {"3", "-3", "-3", "3", "0", "0", "-715827882", "0"};
@@ -331,7 +361,7 @@ public final class TermsTest {
     }
   }
 
-  @Sentence(of = "Terms", says = "5 SUM (by 0: FAIL)")
+  @Sentence(of = "Terms", says = "5 SUM .. by 0: FAIL")
   static void sumByZero(Check check) {
     for (int left : new int[] {7, 0, -7, MIN, MAX}) {
       check.due(left + " / 0", summed(left, 0, 3), "#2");
@@ -351,8 +381,9 @@ public final class TermsTest {
     return b.run(9) == 1;
   }
 
-  @Sentence(of = "Terms", says = "6 COMPARE a, b, a RELATION 0 < 1 =< 2 > 3 >= 4 equal 5 not: if it"
-      + " doesn't hold, FAIL")
+  @Sentence(of = "Terms",
+      says = "6 COMPARE a, b, a RELATION 0 < 1 =< 2 > 3 >= 4 equal 5 not: if it doesn't hold, "
+          + "FAIL")
   static void compare(Check check) {
     int[][] pairs = {{1, 2}, {2, 2}, {3, 2}, {MIN, MAX}, {MAX, MIN}, {MIN, MIN}, {-1, 0}, {MAX, -1}};
     String[] due = {
@@ -378,7 +409,7 @@ public final class TermsTest {
     return bench.run(3) + " " + bench.run(9) + " " + bench.told(1) + " " + bench.told(7);
   }
 
-  @Sentence(of = "Terms", says = "(5 and 6 want NUMBERS: else WRONG)")
+  @Sentence(of = "Terms", says = "5 and 6 want NUMBERS: else WRONG")
   static void wantNumbers(Check check) {
     for (int operation = 0; operation < 5; operation++) {
       check.due("cell left of " + operation, withCell(0, 5, 2, 0, 1, operation), "6 6 3 1");
@@ -400,8 +431,8 @@ public final class TermsTest {
     check.due("a cell in the slot that becomes it is no matter", b.solutions(), "8 #2");
   }
 
-  @Sentence(of = "Terms", says = "7 GO to: that is next. 8 UNLESS .. if a has no CELL with that TAG, to"
-      + " is next")
+  @Sentence(of = "Terms",
+      says = "7 GO to: that is next. 8 UNLESS .. if a has no CELL with that TAG, to is next")
   static void goAndUnless(Check check) {
     Bench b = new Bench();
     int p = b.again(3, 0, 0);
@@ -439,8 +470,9 @@ public final class TermsTest {
     check.due("told", b.told(), "2 9 3 9 0 0 3 0 1");
   }
 
-  @Sentence(of = "Terms", says = "10 CALL p, a row .. a FRAME comes, whose first SLOTS get the VALUES of"
-      + " the row's first ones; it is at work, its INSTRUCTION 0 next")
+  @Sentence(of = "Terms",
+      says = "10 CALL p, a row .. a FRAME comes, whose first SLOTS get the VALUES of the "
+          + "row's first ones; it is at work, its INSTRUCTION 0 next")
   static void call(Check check) {
     Bench b = new Bench();
     int p = b.again(4, 0, 0, 1);
@@ -525,7 +557,7 @@ public final class TermsTest {
     check.due("one that went is not gone back to", b.solutions(), "4 1 #2");
   }
 
-  @Sentence(of = "Terms", says = "(n below 0 counts as 0; where there are not more than n none go)")
+  @Sentence(of = "Terms", says = "n below 0 counts as 0; where there are not more than n none go")
   static void cutBeyond(Check check) {
     check.due("CUT to -1", cutTo(-1), "0 4 3 12 0 0 0 0 1");
     check.due("CUT to MIN", cutTo(MIN), "0 4 3 12 0 0 0 0 1");
@@ -543,8 +575,9 @@ public final class TermsTest {
     }
   }
 
-  @Sentence(of = "Terms", says = "then all that lies above both the FRAME at work and the last REDO"
-      + " point that is left goes")
+  @Sentence(of = "Terms",
+      says = "then all that lies above both the FRAME at work and the last REDO point that is "
+          + "left goes")
   static void cutTakesFrames(Check check) {
     // a frame that has exited stays below a redo point, and goes with it
     Bench b = new Bench();
@@ -592,8 +625,10 @@ public final class TermsTest {
     check.due("it goes, the redo point stays", d.told(), "0 6 7 13 0 0 0 1 1");
   }
 
-  @Sentence(of = "Terms", says = "then all that lies above .. the FRAME at work .. goes (what lies below"
-      + " it stays)")
+  @Sentence(of = "Terms",
+      says = "then all that lies above both the FRAME at work and the last REDO point that is "
+          + "left goes",
+      where = "what lies below one of them stays")
   static void cutLeavesFramesBelow(Check check) {
     Bench b = new Bench();
     int g = b.again(1, 0);
@@ -617,9 +652,30 @@ public final class TermsTest {
     check.due("h goes, g stays", b.told(), "0 6 8 15 0 0 0 0 2");
     b.run(2);
     check.due("g goes when p cuts, though no redo point does", b.told(), "0 8 5 15 0 0 0 0 1");
+
+    // the frame at work lies above the one that is left, and has an exited one above it
+    Bench c = new Bench();
+    int k = c.again(4, 0);
+    c.redo(k, 9);
+    c.exit(k);
+    int r = c.again(2, 1);
+    c.call(r, k);
+    c.cut(r, 0);
+    c.exit(r);
+    int q = c.again(1, 1);
+    c.redo(q, 9);
+    c.call(q, r, 0);
+    c.begin(q, 1);
+    c.run(4);
+    check.due("ahead of the cut", c.told(), "0 4 19 19 0 0 0 2 3");
+    c.run(2);
+    check.due("k goes, r stays", c.told(), "0 6 10 19 0 0 0 1 2");
+    c.run(1);
+    check.due("r goes at its EXIT", c.told(), "0 7 6 19 0 0 0 1 1");
   }
 
-  @Sentence(of = "Terms", says = "13 DROP a: the REDO point with the number n that a has .. is DEAD")
+  @Sentence(of = "Terms",
+      says = "13 DROP a: the REDO point with the number n that a has .. is DEAD")
   static void drop(Check check) {
     check.due("DROP 0", dropped(check, 0), "1 4 3 #2");
     check.due("DROP 1", dropped(check, 1), "1 4 2 #2");
@@ -672,7 +728,7 @@ public final class TermsTest {
     check.due("DROP where there are none: what comes later is not dead", b.solutions(), "8 0 #2");
   }
 
-  @Sentence(of = "Terms", says = "(12, 13: WRONG if a has a CELL)")
+  @Sentence(of = "Terms", says = "12, 13: WRONG if a has a CELL")
   static void cutAndDropWantNumbers(Check check) {
     check.due("CUT to a cell", withCell(0, 12, 0, 0, 0, 0), "6 6 3 1");
     check.due("DROP of a cell", withCell(0, 13, 0, 0, 0, 0), "6 6 3 1");
@@ -698,8 +754,9 @@ public final class TermsTest {
     return b;
   }
 
-  @Sentence(of = "Terms", says = "EXIT of a FRAME: if its PROCEDURE is ONCE: CUT to how many REDO points"
-      + " lay there at its CALL")
+  @Sentence(of = "Terms",
+      says = "EXIT of a FRAME: if its PROCEDURE is ONCE: CUT to how many REDO points lay "
+          + "there at its CALL")
   static void exitOnce(Check check) {
     Bench b = callsTwo(false);
     b.run(5);
@@ -741,7 +798,9 @@ public final class TermsTest {
     check.due("as many as at the call are left", d.told(), "0 8 12 15 0 0 0 2 2");
   }
 
-  @Sentence(of = "Terms", says = "EXIT .. if its PROCEDURE is ONCE (AGAIN: it may succeed again)")
+  @Sentence(of = "Terms",
+      says = "EXIT of a FRAME: if its PROCEDURE is ONCE",
+      where = "AGAIN: it may succeed again")
   static void exitAgain(Check check) {
     Bench b = callsTwo(true);
     b.run(5);
@@ -751,8 +810,9 @@ public final class TermsTest {
     check.due("the frame went at its last exit", b.told(), "2 13 5 11 0 0 2 0 1");
   }
 
-  @Sentence(of = "Terms", says = "Then its OUTS' VALUES go to the row's last SLOTS of its CALL, from the"
-      + " left, in the FRAME of that")
+  @Sentence(of = "Terms",
+      says = "Then its OUTS' VALUES go to the row's last SLOTS of its CALL, from the left, in "
+          + "the FRAME of that")
   static void exitGivesOuts(Check check) {
     Bench b = new Bench();
     int q = b.again(4, 2, 3, 0, 2);
@@ -819,12 +879,12 @@ public final class TermsTest {
     Bench d = new Bench();
     int e = d.again(5, 0);
     d.exit(e);
-    int r = d.again(1, 0);
+    int r = d.again(3, 0);
     d.redo(r, 9);
     d.call(r, e);
     d.begin(r);
     d.run(3);
-    check.due("it goes from above a redo point", d.told(), "0 3 6 13 0 0 0 1 1");
+    check.due("it goes from above a redo point", d.told(), "0 3 8 15 0 0 0 1 1");
   }
 
   @Sentence(of = "Terms", says = "that FRAME is at work, the INSTRUCTION behind its CALL next")
@@ -967,7 +1027,9 @@ public final class TermsTest {
     check.due("what lay above it goes", c.told(), "2 5 5 12 2 2 0 0 1");
   }
 
-  @Sentence(of = "Terms", says = "Else all SLOTS of all FRAMES .. are as they were when it came")
+  @Sentence(of = "Terms",
+      says = "Else all SLOTS of all FRAMES, and the HEAP, are as they were when it came",
+      where = "SLOTS")
   static void failRestoresSlots(Check check) {
     Bench b = new Bench();
     int g = b.again(2, 1, 1);
@@ -1012,9 +1074,38 @@ public final class TermsTest {
     check.due("HEAP", c.told(4), 0);
   }
 
+  @Sentence(of = "Terms",
+      says = "Else all SLOTS of all FRAMES, and the HEAP, are as they were when it came",
+      where = "SLOTS, on a STACK that is all but full")
+  static void failRestoresHighUp(Check check) {
+    Bench b = new Bench();
+    int p = b.again(40, 1);
+    b.redo(p, 5);
+    b.compare(p, 0, 1, 2);
+    b.number(p, 2, 1);
+    b.sum(p, 0, 0, 2, 1);
+    b.call(p, p, 0);
+    b.number(p, 39, 8); // instruction 5, in the last frame
+    b.redo(p, 9);
+    b.number(p, 39, 77);
+    b.fail(p);
+    b.redo(p, 5);
+    b.fail(p);
+    b.begin(p, 439);
+    b.run(439 * 5 + 5);
+    check.due("told", b.told(), "0 2200 19800 19800 0 0 0 440 440");
+    check.due("changed", b.slot(39), 77);
+    b.run(1);
+    check.due("as it was", b.slot(39), 8);
+    check.due("told", b.told(), "0 2201 19797 19800 0 0 0 439 440");
+    b.run(2);
+    check.due("gone back once more", b.slot(39), 8);
+  }
+
   /** What changed above redo points that were cut is changed back by the one below them, too. */
-  @Sentence(of = "Terms", says = "Else all SLOTS of all FRAMES .. are as they were when it came (though"
-      + " later ones were cut)")
+  @Sentence(of = "Terms",
+      says = "Else all SLOTS of all FRAMES, and the HEAP, are as they were when it came",
+      where = "SLOTS, though later REDO points were cut")
   static void failRestoresAcrossCuts(Check check) {
     Bench b = new Bench();
     int p = b.again(4, 1, 0);
@@ -1035,7 +1126,9 @@ public final class TermsTest {
     check.due("slot 3", b.slot(3), 0);
   }
 
-  @Sentence(of = "Terms", says = "and the HEAP, are as they were when it came")
+  @Sentence(of = "Terms",
+      says = "Else all SLOTS of all FRAMES, and the HEAP, are as they were when it came",
+      where = "the HEAP")
   static void failRestoresHeap(Check check) {
     Bench b = new Bench();
     int p = b.again(2, 1, 0);
@@ -1080,10 +1173,33 @@ public final class TermsTest {
     b.run(1);
     check.due("its instruction was next", b.slot(1), 6);
     check.due("its argument", b.slot(0), 4);
+
+    // redo points of several frames, one behind the other in the same place
+    Bench c = new Bench();
+    int g = c.again(3, 0);
+    c.redo(g, 2);
+    c.fail(g);
+    c.exit(g);
+    int r = c.again(2, 0, 0);
+    c.call(r, g);
+    c.redo(r, 4);
+    c.call(r, g);
+    c.fail(r);
+    c.number(r, 0, 8);
+    c.exit(r);
+    c.begin(r);
+    c.run(3);
+    check.due("back in g", c.told(), "0 3 9 12 0 0 0 0 2");
+    c.run(2);
+    check.due("a redo point of r", c.told(), "0 5 7 12 0 0 0 1 1");
+    check.due("back in g, then in r", c.solutions(), "8 #2");
+    check.due("told at the end", c.told(), "2 12 4 15 0 0 1 0 1");
   }
 
-  @Sentence(of = "Terms", says = "What would make the SIZE .. greater than its limit is not done: STACK"
-      + " FULL (the STEP counts)")
+  @Sentence(of = "Terms",
+      says = "What would make the SIZE or the HEAP greater than its limit is not done: STACK "
+          + "FULL, HEAP FULL (the STEP counts)",
+      where = "STACK FULL")
   static void stackFull(Check check) {
     Bench b = new Bench();
     int p = b.again(1, 0);
@@ -1121,8 +1237,10 @@ public final class TermsTest {
     check.due("TRY beyond 20,000", b.run(MAX), 4);
   }
 
-  @Sentence(of = "Terms", says = "What would make .. the HEAP greater than its limit is not done: HEAP"
-      + " FULL (the STEP counts)")
+  @Sentence(of = "Terms",
+      says = "What would make the SIZE or the HEAP greater than its limit is not done: STACK "
+          + "FULL, HEAP FULL (the STEP counts)",
+      where = "HEAP FULL")
   static void heapFull(Check check) {
     for (int fields = 1; fields <= 4; fields++) {
       Bench b = new Bench();
