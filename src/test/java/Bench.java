@@ -188,6 +188,18 @@ final class Bench {
     return b;
   }
 
+  /** A machine in STATE 1 whose OUT 0 is the term, and OUT 1 the number 6. */
+  static Bench solutionOf(Term term) {
+    Bench b = new Bench();
+    int p = b.again(40, 0, 0, 39);
+    term.build(b, p, 0, 1);
+    b.number(p, 39, 6);
+    b.exit(p);
+    b.begin(p);
+    if (b.run(Integer.MAX_VALUE) != 1) throw new IllegalStateException("no solution");
+    return b;
+  }
+
   /** OUT from one character to ahead of another. */
   String letters(int from, int to) {
     StringBuilder text = new StringBuilder();

@@ -37,7 +37,8 @@ public final class FaceTest {
       check.due(inside + " is public", Modifier.isPublic(inside.getModifiers()), false);
       for (Method method : inside.getDeclaredMethods()) {
         boolean hidden = Modifier.isPrivate(method.getModifiers());
-        check.due(method + " bears a public name", hidden && names.contains(method.getName()), false);
+        boolean bears = names.contains(method.getName());
+        check.due(method + " is private and bears a public name", hidden && bears, false);
       }
     }
     for (Field field : RedoMachine.class.getDeclaredFields()) {

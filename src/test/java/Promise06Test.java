@@ -1,4 +1,4 @@
-/** Promise 6: run. What each instruction does is in TermsTest. */
+/** Promise 6: run. What each instruction does is in the Terms tests. */
 public final class Promise06Test {
   private static final int NONE = RedoMachine.NONE;
   private static final int MIN = Integer.MIN_VALUE;

@@ -8,21 +8,6 @@ public final class Promise08Test {
     Sentences.testAll(Promise08Test.class);
   }
 
-  /** A machine in STATE 1 whose OUT 0 is the term. */
-  private static Bench solutionOf(Term term) {
-    Bench b = new Bench();
-    int p = b.again(40, 0, 0);
-    term.build(b, p, 0, 1);
-    b.exit(p);
-    b.begin(p);
-    if (b.run(MAX) != 1) throw new IllegalStateException("no solution");
-    return b;
-  }
-
-  private static void dueText(Check check, Term term) {
-    check.due("text", solutionOf(term).text(0), term.text());
-  }
-
   @Sentence(of = "Promise 8", says = "OUT becomes the k-th OUT of a SOLUTION as a text")
   static void kthOut(Check check) {
     Bench b = new Bench();
@@ -40,16 +25,16 @@ public final class Promise08Test {
   @Sentence(of = "Promise 8", says = "a NUMBER in decimal")
   static void numberInDecimal(Check check) {
     for (int n : new int[] {0, 1, -1, 9, 10, -10, 99, 100, MAX, MAX - 1, MIN, MIN + 1}) {
-      check.due("text", solutionOf(Term.number(n)).text(0), String.valueOf(n));
+      check.due("text", Bench.solutionOf(Term.number(n)).text(0), String.valueOf(n));
     }
   }
 
   @Sentence(of = "Promise 8", says = "a CELL c and its TAG in decimal")
   static void cellWithTag(Check check) {
     for (int tag : new int[] {0, 1, 9, 10, 30, 31}) {
-      check.due("tag " + tag, solutionOf(Term.cell(tag)).text(0), "c" + tag);
+      check.due("tag " + tag, Bench.solutionOf(Term.cell(tag)).text(0), "c" + tag);
       check.due("tag " + tag + " with a field",
-          solutionOf(Term.cell(tag, Term.number(5))).text(0), "c" + tag + "(5)");
+          Bench.solutionOf(Term.cell(tag, Term.number(5))).text(0), "c" + tag + "(5)");
     }
   }
 
@@ -59,13 +44,13 @@ public final class Promise08Test {
     Term n = Term.number(-7);
     Term none = Term.cell(3);
     Term one = Term.cell(4, none);
-    check.due("none", solutionOf(none).text(0), "c3");
-    check.due("one", solutionOf(one).text(0), "c4(c3)");
-    check.due("two", solutionOf(Term.cell(0, n, one)).text(0), "c0(-7,c4(c3))");
-    check.due("three", solutionOf(Term.cell(0, one, n, none)).text(0), "c0(c4(c3),-7,c3)");
-    check.due("four", solutionOf(Term.cell(0, n, n, none, n)).text(0), "c0(-7,-7,c3,-7)");
+    check.due("none", Bench.solutionOf(none).text(0), "c3");
+    check.due("one", Bench.solutionOf(one).text(0), "c4(c3)");
+    check.due("two", Bench.solutionOf(Term.cell(0, n, one)).text(0), "c0(-7,c4(c3))");
+    check.due("three", Bench.solutionOf(Term.cell(0, one, n, none)).text(0), "c0(c4(c3),-7,c3)");
+    check.due("four", Bench.solutionOf(Term.cell(0, n, n, none, n)).text(0), "c0(-7,-7,c3,-7)");
     Term nested = Term.cell(1, Term.cell(2, one, n), Term.cell(2, n, one), one);
-    check.due("nested", solutionOf(nested).text(0),
+    check.due("nested", Bench.solutionOf(nested).text(0),
         "c1(c2(c4(c3),-7),c2(-7,c4(c3)),c4(c3))");
   }
 
@@ -74,7 +59,7 @@ public final class Promise08Test {
     for (int length : new int[] {11, 12, 100, 998, 999, 1000, 1001, 1002, 1100, 2000, 3000}) {
       Term term = Term.ofLength(length);
       check.due("the length as built", term.text().length(), length);
-      Bench b = solutionOf(term);
+      Bench b = Bench.solutionOf(term);
       int due = Math.min(length, 1000);
       check.due("tell of " + length, b.tell(0), due);
       check.due("the last one", b.letter(due - 1), term.text().charAt(due - 1));
@@ -89,7 +74,7 @@ public final class Promise08Test {
       Term term = Term.cell(0, Term.ofLength(ahead - 4), tail);
       String whole = term.text();
       int due = Math.min(whole.length(), 1000);
-      Bench b = solutionOf(term);
+      Bench b = Bench.solutionOf(term);
       check.due("tell with " + ahead + " ahead", b.tell(0), due);
       check.due("the end with " + ahead + " ahead", b.letters(940, 1002),
           whole.substring(940, due) + "#".repeat(1002 - due));
@@ -103,7 +88,7 @@ public final class Promise08Test {
     Term term = Term.cell(12, Term.ofLength(300), Term.ofLength(501), Term.ofLength(400));
     String whole = term.text();
     for (int from = 0; from < 1000; from += 200) {
-      Bench b = solutionOf(term);
+      Bench b = Bench.solutionOf(term);
       check.due("tell", b.tell(0), 1000);
       check.due("from " + from, b.letters(from, from + 200), whole.substring(from, from + 200));
     }
@@ -233,7 +218,5 @@ public final class Promise08Test {
     b.exit(p);
     b.begin(p);
     check.due("solutions", b.solutions(), first.text() + " " + second.text() + " #2");
-    dueText(check, first);
-    dueText(check, second);
   }
 }

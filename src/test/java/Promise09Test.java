@@ -7,21 +7,10 @@ public final class Promise09Test {
     Sentences.testAll(Promise09Test.class);
   }
 
-  private static Bench solutionOf(Term term) {
-    Bench b = new Bench();
-    int p = b.again(40, 0, 0, 39);
-    term.build(b, p, 0, 1);
-    b.number(p, 39, 6);
-    b.exit(p);
-    b.begin(p);
-    b.run(100000);
-    return b;
-  }
-
   @Sentence(of = "Promise 9", says = "Character i of OUT")
   static void characters(Check check) {
     Term term = Term.cell(31, Term.number(-102), Term.cell(4), Term.number(56789));
-    Bench b = solutionOf(term);
+    Bench b = Bench.solutionOf(term);
     check.due("tell", b.tell(0), term.text().length());
     for (int i = term.text().length() - 1; i >= 0; i--) {
       check.due("letter " + i, b.letter(i), term.text().charAt(i));
@@ -39,7 +28,7 @@ public final class Promise09Test {
 
   @Sentence(of = "Promise 9", says = "NONE when there is none", where = "ahead of OUT or behind it")
   static void noneOutside(Check check) {
-    Bench b = solutionOf(Term.number(-7));
+    Bench b = Bench.solutionOf(Term.number(-7));
     check.due("tell", b.tell(0), 2);
     check.due("letter 0", b.letter(0), '-');
     check.due("letter 1", b.letter(1), '7');
@@ -49,7 +38,7 @@ public final class Promise09Test {
 
   @Sentence(of = "Promise 9", says = "NONE when there is none", where = "behind the 1000th")
   static void noneBehindThousand(Check check) {
-    Bench b = solutionOf(Term.ofLength(1500));
+    Bench b = Bench.solutionOf(Term.ofLength(1500));
     check.due("tell", b.tell(0), 1000);
     check.due("letter 999", b.letter(999), Term.ofLength(1500).text().charAt(999));
     for (int i : NEVER) check.due("letter " + i, b.letter(i), NONE);
@@ -57,7 +46,7 @@ public final class Promise09Test {
 
   @Sentence(of = "Promise 9", says = "NONE when there is none", where = "behind a shorter OUT")
   static void noneOfALongerOutBefore(Check check) {
-    Bench b = solutionOf(Term.ofLength(50));
+    Bench b = Bench.solutionOf(Term.ofLength(50));
     check.due("tell the long one", b.tell(0), 50);
     check.due("tell the short one", b.tell(1), 1);
     check.due("letter 0", b.letter(0), '6');

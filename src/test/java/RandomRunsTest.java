@@ -75,10 +75,14 @@ public final class RandomRunsTest {
     }
   }
 
-  private static final int[] KINDS = {0, 0, 0, 1, 2, 2, 3, 3, 4, 5, 5, 6, 7, 8, 9, 9, 9, 9, 10, 10, 10,
-    10, 11, 11, 12, 13, 14, 14, 14, 15};
+  private static final int[] KINDS = {
+    0, 0, 0, 1, 2, 2, 3, 3, 4, 5, 5, 6, 7, 8, 9, 9, 9, 9, 10, 10, 10, 10, 11, 11, 12, 13, 14, 14,
+    14, 15,
+  };
   /** Those that mostly go on to the next, so that much comes onto the stack. */
-  private static final int[] SMOOTH_KINDS = {0, 0, 1, 2, 9, 9, 9, 10, 10, 10, 11, 11, 12, 12, 13, 14};
+  private static final int[] SMOOTH_KINDS = {
+    0, 0, 1, 2, 9, 9, 9, 10, 10, 10, 11, 11, 12, 12, 13, 14,
+  };
 
   private void newInstruction() {
     int[] kinds = smooth ? SMOOTH_KINDS : KINDS;

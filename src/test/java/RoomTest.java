@@ -2,7 +2,7 @@ import java.lang.management.ManagementFactory;
 
 /** The dearest programs, begun as often as 512 calls allow, make few objects. */
 public final class RoomTest {
-  // Some 600,000 objects, of at least 16 bytes each, may be made in a run, and 7.3 million elements.
+  // A run may make some 600,000 objects, of at least 16 bytes each, and 7.3 million elements.
   private static final long MOST_BYTES = 8_000_000;
   private static final Check check = new Check("room");
 

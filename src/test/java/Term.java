@@ -40,7 +40,9 @@ final class Term {
   String text() {
     if (tag == NUMBER) return String.valueOf(number);
     StringBuilder text = new StringBuilder("c").append(tag);
-    for (int i = 0; i < fields.length; i++) text.append(i == 0 ? '(' : ',').append(fields[i].text());
+    for (int i = 0; i < fields.length; i++) {
+      text.append(i == 0 ? '(' : ',').append(fields[i].text());
+    }
     return text.append(fields.length == 0 ? "" : ")").toString();
   }
 
