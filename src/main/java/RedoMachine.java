@@ -904,39 +904,67 @@ public final class RedoMachine {
         }
     }
 
-    /** OUT. Nested CELLS wait in a row, as they may be nested deeper than calls should be. */
+    /**
+     * OUT, in rows that every tell uses again, as a text and its digits made anew for each of 512
+     * calls would take much room. Nested CELLS wait in a row too, as they may be nested deeper
+     * than calls should be.
+     */
     private static final class Text {
-        private final StringBuilder characters = new StringBuilder();
+        private static final int DIGITS_MOST = 10;
+
+        private final char[] characters = new char[OUT_MOST];
+        private int length;
+        /** Those of one NUMBER, the last one first. */
+        private final char[] digits = new char[DIGITS_MOST];
         /** Pairs of a CELL whose ) is due and how many of its FIELDS are written. */
         private final LongRow open = new LongRow();
 
         int write(long value, Heap heap) {
-            characters.setLength(0);
+            length = 0;
             open.shrink(0);
             writeHead(value);
-            for (int i = 0; i < OUT_MOST && open.size() > 0; i++) {
-                if (characters.length() >= OUT_MOST) {
-                    break;
-                }
+            for (int i = 0; i < OUT_MOST && length < OUT_MOST && open.size() > 0; i++) {
                 writeMore(heap);
             }
-            if (characters.length() > OUT_MOST) {
-                characters.setLength(OUT_MOST);
+            return length;
+        }
+
+        /** What would come behind the row's end is left out. */
+        private void writeCharacter(char c) {
+            if (within(length, characters.length)) {
+                characters[length] = c;
+                length++;
             }
-            return characters.length();
         }
 
         private void writeHead(long value) {
             if (!Value.isCell(value)) {
-                characters.append((int) value);
+                writeNumber(value);
                 return;
             }
-            characters.append('c');
-            characters.append(Value.tag(value));
+            writeCharacter('c');
+            writeNumber(Value.tag(value));
             if (Value.fields(value) > 0) {
-                characters.append('(');
+                writeCharacter('(');
                 open.push(value);
                 open.push(0);
+            }
+        }
+
+        /** A long, as the least NUMBER has no int above 0 with its digits. */
+        private void writeNumber(long number) {
+            if (number < 0) {
+                writeCharacter('-');
+            }
+            long rest = Math.abs(number);
+            int count = 0;
+            while (count < digits.length && (count == 0 || rest > 0)) {
+                digits[count] = (char) ('0' + rest % 10);
+                rest /= 10;
+                count++;
+            }
+            for (int i = count - 1; i >= 0; i--) {
+                writeCharacter(digits[i]);
             }
         }
 
@@ -945,11 +973,11 @@ public final class RedoMachine {
             int written = (int) open.pop();
             long cell = open.pop();
             if (written >= Value.fields(cell)) {
-                characters.append(')');
+                writeCharacter(')');
                 return;
             }
             if (written > 0) {
-                characters.append(',');
+                writeCharacter(',');
             }
             open.push(cell);
             open.push(written + 1);
@@ -957,7 +985,7 @@ public final class RedoMachine {
         }
 
         int characterAt(int i) {
-            return within(i, characters.length()) ? characters.charAt(i) : NONE;
+            return within(i, length) && i < characters.length ? characters[i] : NONE;
         }
     }
 }
